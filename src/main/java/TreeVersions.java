@@ -573,8 +573,12 @@ public final class TreeVersions {
         return false;
     }
 
+    private Commit headAtHand() {
+        return commits[heads[atHand]];
+    }
+
     private boolean isClean() {
-        Commit last = commits[heads[atHand]];
+        Commit last = headAtHand();
         for (int t = 0; t < TABLES; t++) {
             if (!work[t].rows.isSame(last.tables[t].rows)) {
                 return false;
@@ -584,7 +588,7 @@ public final class TreeVersions {
     }
 
     private void loadWork() {
-        Commit last = commits[heads[atHand]];
+        Commit last = headAtHand();
         for (int t = 0; t < TABLES; t++) {
             work[t].become(last.tables[t].rows);
         }
@@ -623,8 +627,7 @@ public final class TreeVersions {
     }
 
     private int beginMerge(int old, int theirs, int secondParent) {
-        Commit ours = commits[heads[atHand]];
-        if (!underWay.bringTogether(commits[old], ours, commits[theirs])) {
+        if (!underWay.bringTogether(commits[old], headAtHand(), commits[theirs])) {
             underWay.end();
             return FULL;
         }
@@ -716,6 +719,19 @@ public final class TreeVersions {
             return setRow(key, from.words[w + 1], from.words[w + 2], from.words[w + 3]) != FULL;
         }
 
+        /** Adds a row behind the last one, nothing for NONE; false if there is no room. */
+        boolean append(Rows from, int place) {
+            if (place < 0 || place >= from.count) {
+                return true;
+            }
+            if (WIDTH * (count + 1) > words.length) {
+                return false;
+            }
+            System.arraycopy(from.words, WIDTH * place, words, WIDTH * count, WIDTH);
+            count++;
+            return true;
+        }
+
         void become(Rows from) {
             int length = WIDTH * from.count;
             if (length <= words.length) {
@@ -772,11 +788,13 @@ public final class TreeVersions {
         int seenIn;
         boolean isThere;
 
-        void set(Rows itsRows, int itsLevel, int first, int count) {
+        void set(Rows itsRows, int itsLevel, int first, int rowCount, int entryCount, long itsHash) {
             rows = itsRows;
             level = itsLevel;
             firstRow = first;
-            below = count;
+            below = rowCount;
+            entries = entryCount;
+            hash = itsHash;
         }
 
         long lastKey() {
@@ -845,25 +863,25 @@ public final class TreeVersions {
             starts[0] = 0;
         }
 
-        void beginLevel() {
+        int beginLevel() {
             if (levels < MAX_LEVELS) {
                 starts[levels + 1] = starts[levels];
                 levels++;
             }
+            return levels - 1;
         }
 
         /** A node more on the last level; nodes that an earlier tree used are used again. */
-        Node addNode(int firstRow, int below) {
+        void addNode(int firstRow, int below, int entries, long hash) {
             int at = starts[levels];
             if (at >= nodes.length) {
-                return null;
+                return;
             }
             if (nodes[at] == null) {
                 nodes[at] = new Node();
             }
-            nodes[at].set(rows, levels - 1, firstRow, below);
+            nodes[at].set(rows, levels - 1, firstRow, below, entries, hash);
             starts[levels] = at + 1;
-            return nodes[at];
         }
     }
 
@@ -895,20 +913,22 @@ public final class TreeVersions {
         }
 
         private static void cutLevel(Table table, int[] words, int n) {
-            table.beginLevel();
+            int level = table.beginLevel();
+            if (n == 0) {
+                table.addNode(0, 0, 0, hashOf(level, words, 0, 0));
+            }
             int from = 0;
             int firstRow = 0;
             int roll = 0;
             for (int e = 0; e < n; e++) {
                 roll = rollEntry(roll, words, from, e);
                 if (e == n - 1 || endsNode(e - from + 1, roll)) {
-                    firstRow += closeNode(table, words, from, e + 1, firstRow);
+                    int below = rowsBelow(level, words, from, e + 1);
+                    table.addNode(firstRow, below, e - from + 1, hashOf(level, words, from, e + 1));
+                    firstRow += below;
                     from = e + 1;
                     roll = 0;
                 }
-            }
-            if (n == 0) {
-                closeNode(table, words, 0, 0, 0);
             }
         }
 
@@ -916,19 +936,10 @@ public final class TreeVersions {
             return entries >= MAX_ENTRIES || entries >= MIN_ENTRIES && (roll & 3) == 0;
         }
 
-        /** Adds the node of entries from .. to - 1, and answers how many rows are below it. */
-        private static int closeNode(Table table, int[] words, int from, int to, int firstRow) {
-            int level = table.levels - 1;
-            int below = level == 0 ? to - from : sumOfRows(words, from, to);
-            Node added = table.addNode(firstRow, below);
-            if (added != null) {
-                added.entries = to - from;
-                added.hash = hashOf(level, words, from, to);
+        private static int rowsBelow(int level, int[] words, int from, int to) {
+            if (level == 0) {
+                return to - from;
             }
-            return below;
-        }
-
-        private static int sumOfRows(int[] words, int from, int to) {
             int sum = 0;
             for (int e = from; e < to; e++) {
                 sum += words[WIDTH * e + 3];
@@ -939,11 +950,13 @@ public final class TreeVersions {
         private static int rollEntry(int roll, int[] words, int from, int e) {
             int rolled = roll;
             for (int w = WIDTH * e; w < WIDTH * (e + 1); w++) {
-                boolean leaves = w - WIDTH * from >= ROLL_REACH;
+                int word = words[w];
+                boolean isFar = w - WIDTH * from >= ROLL_REACH;
+                int before = isFar ? words[w - ROLL_REACH] : 0;
                 for (int shift = 24; shift >= 0; shift -= 8) {
-                    rolled = turned(rolled, 1) ^ spread(words[w] >>> shift & 255);
-                    if (leaves) {
-                        rolled ^= turned(spread(words[w - ROLL_REACH] >>> shift & 255), 24);
+                    rolled = turned(rolled, 1) ^ spread(word >>> shift & 255);
+                    if (isFar) {
+                        rolled ^= turned(spread(before >>> shift & 255), 24);
                     }
                 }
             }
@@ -961,8 +974,9 @@ public final class TreeVersions {
         private static long hashOf(int level, int[] words, int from, int to) {
             long h = level + 1;
             for (int w = WIDTH * from; w < WIDTH * to; w++) {
+                int word = words[w];
                 for (int shift = 24; shift >= 0; shift -= 8) {
-                    h ^= words[w] >>> shift & 255;
+                    h ^= word >>> shift & 255;
                     h = (h << 29 | h >>> 35) * HASH_FACTOR;
                 }
             }
@@ -1028,9 +1042,7 @@ public final class TreeVersions {
 
         private Node addNode(Node like, Rows rows) {
             Node added = new Node();
-            added.set(rows, like.level, like.firstRow, like.below);
-            added.entries = like.entries;
-            added.hash = like.hash;
+            added.set(rows, like.level, like.firstRow, like.below, like.entries, like.hash);
             int bucket = bucketOf(added);
             added.next = buckets[bucket];
             buckets[bucket] = added;
@@ -1114,7 +1126,8 @@ public final class TreeVersions {
         final Rows[] result = new Rows[TABLES];
         /** Where the versions have the row of the key in question; NONE where they have none. */
         private final int[] places = new int[VERSIONS];
-        private final int[] mixed = new int[COLUMNS];
+        /** The one row that mixColumns() makes. */
+        private final Rows mixed = new Rows(1);
         final int[] tables = new int[MAX_CONFLICTS];
         final int[] keys = new int[MAX_CONFLICTS];
         final boolean[] isOpen = new boolean[MAX_CONFLICTS];
@@ -1122,6 +1135,7 @@ public final class TreeVersions {
         int openCount;
 
         Merge() {
+            mixed.count = 1;
             for (int t = 0; t < TABLES; t++) {
                 result[t] = new Rows(MAX_ROWS);
             }
@@ -1179,59 +1193,51 @@ public final class TreeVersions {
                 if (key == NOTHING) {
                     return true;
                 }
-                places[OLD] = old.keyAt(i) == key ? i++ : NONE;
-                places[OURS] = ours.keyAt(j) == key ? j++ : NONE;
-                places[THEIRS] = theirs.keyAt(k) == key ? k++ : NONE;
-                if (!bringKey(t, old, ours, theirs)) {
+                places[OLD] = old.keyAt(i) == key ? i : NONE;
+                places[OURS] = ours.keyAt(j) == key ? j : NONE;
+                places[THEIRS] = theirs.keyAt(k) == key ? k : NONE;
+                if (!bringKey(t, (int) key, old, ours, theirs)) {
                     return false;
                 }
+                i += places[OLD] == NONE ? 0 : 1;
+                j += places[OURS] == NONE ? 0 : 1;
+                k += places[THEIRS] == NONE ? 0 : 1;
             }
             return true;
         }
 
-        private boolean bringKey(int t, Rows old, Rows ours, Rows theirs) {
+        private boolean bringKey(int t, int key, Rows old, Rows ours, Rows theirs) {
             int i = places[OLD];
             int j = places[OURS];
             int k = places[THEIRS];
             if (ours.isSameRow(j, theirs, k)) {
-                return append(t, ours, j);
+                return result[t].append(ours, j);
             }
             if (old.isSameRow(i, ours, j)) {
-                return append(t, theirs, k);
+                return result[t].append(theirs, k);
             }
             if (old.isSameRow(i, theirs, k)) {
-                return append(t, ours, j);
+                return result[t].append(ours, j);
             }
             boolean inAll = i != NONE && j != NONE && k != NONE;
             if (inAll && mixColumns(old, ours, theirs)) {
-                return setResult(t, (int) ours.keyAt(j), mixed[0], mixed[1], mixed[2]);
+                mixed.words[0] = key;
+                return result[t].append(mixed, 0);
             }
-            addConflict(t, (int) (j != NONE ? ours.keyAt(j) : theirs.keyAt(k)));
-            return append(t, ours, j);
-        }
-
-        private boolean append(int t, Rows from, int place) {
-            if (place == NONE) {
-                return true;
-            }
-            int w = WIDTH * place;
-            return setResult(t, from.words[w], from.words[w + 1], from.words[w + 2], from.words[w + 3]);
-        }
-
-        private boolean setResult(int t, int key, int c0, int c1, int c2) {
-            return result[t].setRow(key, c0, c1, c2) != FULL;
+            addConflict(t, key);
+            return result[t].append(ours, j);
         }
 
         /** False if in some column all three differ. */
         private boolean mixColumns(Rows old, Rows ours, Rows theirs) {
-            for (int c = 0; c < COLUMNS; c++) {
-                int was = old.words[WIDTH * places[OLD] + 1 + c];
-                int our = ours.words[WIDTH * places[OURS] + 1 + c];
-                int their = theirs.words[WIDTH * places[THEIRS] + 1 + c];
+            for (int c = 1; c <= COLUMNS; c++) {
+                int was = old.words[WIDTH * places[OLD] + c];
+                int our = ours.words[WIDTH * places[OURS] + c];
+                int their = theirs.words[WIDTH * places[THEIRS] + c];
                 if (our != their && was != our && was != their) {
                     return false;
                 }
-                mixed[c] = was == our ? their : our;
+                mixed.words[c] = was == our ? their : our;
             }
             return true;
         }
