@@ -901,33 +901,32 @@ public final class PromisesTest {
         due(29, "a row that both put", x.get(0, 4, 1), 1);
     }
 
+    /** The whole run for each column anew: an object is used for at most 512 calls. */
     private static void mergeColumns() {
         // Column by column: OLD, OURS, THEIRS and what comes of them; the last one is in conflict.
         int[][] cases = {{1, 1, 1, 1}, {1, 2, 2, 2}, {1, 1, 2, 2}, {1, 2, 1, 2}, {1, 2, 3, NONE}};
-        TreeVersions x = new TreeVersions();
-        for (int key = 0; key < 125; key++) {
-            x.put(1, key, cases[key % 5][0], cases[key / 5 % 5][0], cases[key / 25][0]);
-        }
-        x.commit();
-        x.open(1);
-        for (int key = 0; key < 125; key++) {
-            x.put(1, key, cases[key % 5][1], cases[key / 5 % 5][1], cases[key / 25][1]);
-        }
-        x.commit();
-        x.go(1);
-        for (int key = 0; key < 125; key++) {
-            x.put(1, key, cases[key % 5][2], cases[key / 5 % 5][2], cases[key / 25][2]);
-        }
-        x.commit();
-        x.go(0);
-        due(29, "61 keys have a column where all three differ", x.merge(1), 2 + 61);
-        for (int key = 0; key < 125; key++) {
-            int[] ways = {key % 5, key / 5 % 5, key / 25};
-            boolean inConflict = ways[0] == 4 || ways[1] == 4 || ways[2] == 4;
-            for (int c = 0; c < 3; c++) {
+        for (int c = 0; c < 3; c++) {
+            TreeVersions x = new TreeVersions();
+            putCases(x, cases, 0);
+            x.open(1);
+            putCases(x, cases, 1);
+            x.go(1);
+            putCases(x, cases, 2);
+            x.go(0);
+            due(29, "61 keys have a column where all three differ", x.merge(1), 2 + 61);
+            for (int key = 0; key < 125; key++) {
+                int[] ways = {key % 5, key / 5 % 5, key / 25};
+                boolean inConflict = ways[0] == 4 || ways[1] == 4 || ways[2] == 4;
                 due(29, "column " + c + " of key " + key, x.get(1, key, c), cases[ways[c]][inConflict ? 1 : 3]);
             }
         }
+    }
+
+    private static void putCases(TreeVersions x, int[][] cases, int version) {
+        for (int key = 0; key < 125; key++) {
+            x.put(1, key, cases[key % 5][version], cases[key / 5 % 5][version], cases[key / 25][version]);
+        }
+        x.commit();
     }
 
     private static void mergeRows() {

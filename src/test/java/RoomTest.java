@@ -54,7 +54,7 @@ public final class RoomTest {
             calls++;
         }
         x.send(0);
-        for (; calls < CALLS; calls++) {
+        for (calls++; calls < CALLS; calls++) {
             x.stored();
         }
         return allocated() - before;
@@ -66,7 +66,7 @@ public final class RoomTest {
         TreeVersions x = new TreeVersions();
         x.fill(0, 0, 1, 100, 1);
         x.fill(0, 100, 1, 100, 1);
-        for (calls = 0; calls < CALLS; calls += 8) {
+        for (calls = 2; calls + 9 <= CALLS; calls += 9) {
             x.put(0, calls % 200, calls, 0, 0);
             x.root(-1, 0);
             x.shared(-1, 0, 0);
@@ -100,7 +100,7 @@ public final class RoomTest {
             x.fill(t, 100, 1, 100, 3);
         }
         x.commit();
-        for (calls = 0; calls < CALLS; calls += 2) {
+        for (calls = 23; calls + 2 <= CALLS; calls += 2) {
             if (x.merge(0) != 602) {
                 wrong++;
             }
