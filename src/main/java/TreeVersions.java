@@ -573,8 +573,10 @@ public final class TreeVersions {
         return false;
     }
 
+    /** A branch at hand always has a head that is there; commit 0 stands in so that no answer hangs on it. */
     private Commit headAtHand() {
-        return commits[heads[atHand]];
+        Commit last = commitAt(heads[atHand]);
+        return last == null ? commits[0] : last;
     }
 
     private boolean isClean() {
@@ -904,6 +906,9 @@ public final class TreeVersions {
             int n = Math.min(table.nodesOn(level), upper.length / WIDTH);
             for (int i = 0; i < n; i++) {
                 Node child = table.nodeAt(level, i);
+                if (child == null) {
+                    return i;
+                }
                 upper[WIDTH * i] = (int) child.lastKey();
                 upper[WIDTH * i + 1] = (int) (child.hash >>> 32);
                 upper[WIDTH * i + 2] = (int) child.hash;

@@ -83,7 +83,7 @@ public final class BranchBoundariesTest {
             close(5) = 1
             open(5) = 1
             """);
-        DOCUMENT.holds(16, "Of several answers that fit the one that is named first is given.", Begin.MERGE_CLEAN + """
+        DOCUMENT.holds(16, Sentences.FIRST_NAMED, Begin.MERGE_CLEAN + """
             open(6) = BAD
             open(-1) = BAD
             open(0) = BUSY
@@ -93,7 +93,8 @@ public final class BranchBoundariesTest {
     }
 
     private static void go() {
-        DOCUMENT.holds(17, "A branch is at hand, and the work is that of its head: that commit.", Begin.TWO_BRANCHES + """
+        DOCUMENT.holds(17, "A branch is at hand, and the work is that of its head: that commit.",
+                Begin.TWO_BRANCHES + """
             get(0, 2, 0) = 5
             go(0) = 2, and nothing changes
             go(1) = 3
@@ -135,8 +136,7 @@ public final class BranchBoundariesTest {
             put(0, 1, 10, 20, 30) = 1
             go(1) = 3
             """);
-        DOCUMENT.holds(17, "Of several answers that fit the one that is named first is given.", Begin.MERGE_NOT_CLEAN
-                + """
+        DOCUMENT.holds(17, Sentences.FIRST_NAMED, Begin.MERGE_NOT_CLEAN + """
             go(1) = BAD
             go(6) = BAD
             go(0) = BUSY
@@ -202,7 +202,7 @@ public final class BranchBoundariesTest {
     }
 
     private static void commit() {
-        DOCUMENT.holds(20, "The work becomes a commit, the head of the branch at hand; its parent is the one before", """
+        DOCUMENT.holds(20, "The work becomes a commit, the head of the branch at hand; its parent is .. before", """
             put(0, 1, 1, 1, 1) = 1
             commit() = 1
             head(0) = 1
@@ -328,8 +328,7 @@ public final class BranchBoundariesTest {
             parent(2, 0) = 0
             ancestors(1) = BAD
             """);
-        DOCUMENT.holds(20, "Of several answers that fit the one that is named first is given.", SIXTY_AND_TWO_BRANCHES
-                + """
+        DOCUMENT.holds(20, Sentences.FIRST_NAMED, SIXTY_AND_TWO_BRANCHES + """
             commit() = NONE
             merge(1) = 3
             commit() = BUSY

@@ -86,8 +86,9 @@ public final class MergeBoundariesTest {
 
     /** Commit 1, then 2 on branch 0, which is at hand, and 3 on branch 1. */
     private static String three(String old, String ours, String theirs) {
-        return old + "put(2, 99, 0, 0, 0) = 1\ncommit() = 1\nopen(1) = 1\n" + ours + "put(2, 99, 1, 0, 0) = 0\ncommit() = 2\n"
-                + "go(1) = 1\n" + theirs + "put(2, 99, 0, 1, 0) = 0\ncommit() = 3\ngo(0) = 2\n";
+        return old + "put(2, 99, 0, 0, 0) = 1\ncommit() = 1\nopen(1) = 1\n"
+                + ours + "put(2, 99, 1, 0, 0) = 0\ncommit() = 2\ngo(1) = 1\n"
+                + theirs + "put(2, 99, 0, 1, 0) = 0\ncommit() = 3\ngo(0) = 2\n";
     }
 
     private static void diff() {
@@ -192,7 +193,8 @@ public final class MergeBoundariesTest {
             diffKey(MIN) = NOTHING
             diffKey(MAX) = NOTHING
             """);
-        DOCUMENT.holds(27, "(The list stays as it is, whatever changes, until the next diff().)", Begin.TWO_BRANCHES + """
+        DOCUMENT.holds(27, "(The list stays as it is, whatever changes, until the next diff().)",
+                Begin.TWO_BRANCHES + """
             put(0, 9, 9, 9, 9) = 1
             diff(2, NONE, 0) = 1
             diffKey(0) = 9
@@ -319,8 +321,8 @@ public final class MergeBoundariesTest {
             get(0, 2, 1) = 1
             get(0, 2, 2) = MIN
             """);
-        DOCUMENT.holds(0, "if in no column all three differ .. otherwise the key is in CONFLICT, and is as in OURS", three(
-                Script.range("put(0, #, 1, 1, 1) = 1", 1, 3), """
+        DOCUMENT.holds(0, "if in no column all three differ .. otherwise the key is in CONFLICT, and is as in OURS",
+                three(Script.range("put(0, #, 1, 1, 1) = 1", 1, 3), """
             put(0, 1, 2, 1, 4) = 0
             put(0, 2, 2, 4, 1) = 0
             put(0, 3, 4, 1, 2) = 0
@@ -366,7 +368,8 @@ public final class MergeBoundariesTest {
     }
 
     private static void conflict() {
-        DOCUMENT.holds(0, "CONFLICTS are in order of tables and keys; each is OPEN until it is settled.", SIX_CONFLICTS + """
+        DOCUMENT.holds(0, "CONFLICTS are in order of tables and keys; each is OPEN until it is settled.",
+                SIX_CONFLICTS + """
             conflict(0, 0) = 0
             conflict(0, 1) = MIN
             conflict(1, 1) = -1
@@ -400,7 +403,8 @@ public final class MergeBoundariesTest {
         DOCUMENT.holds(34, "NOTHING when there is none such.", """
             conflict(0, 0) = NOTHING
             """ + SIX_CONFLICTS + Script.each("conflict(#, 0) = NOTHING", -1, 6, MIN, MAX)
-                + Script.each("conflict(5, #) = NOTHING", -1, 3, MIN, MAX) + Script.range("settle(#, 1) = 1", 0, 5) + """
+                + Script.each("conflict(5, #) = NOTHING", -1, 3, MIN, MAX)
+                + Script.range("settle(#, 1) = 1", 0, 5) + """
             conflict(5, 0) = 2
             commit() = 3
             conflict(0, 0) = NOTHING
@@ -438,7 +442,8 @@ public final class MergeBoundariesTest {
             merge(1) = 1
             head(5) = 2
             """);
-        DOCUMENT.holds(29, "commit() will have the parents OURS and THEIRS: 2 + how many conflicts.", Begin.TWO_BRANCHES + """
+        DOCUMENT.holds(29, "commit() will have the parents OURS and THEIRS: 2 + how many conflicts.",
+                Begin.TWO_BRANCHES + """
             merge(1) = 3
             merging() = true
             conflicts(1) = 1
@@ -454,8 +459,38 @@ public final class MergeBoundariesTest {
             merge(0) = 1
             head(1) = 4
             """);
-        DOCUMENT.holds(29, "2 + how many conflicts: none", three("", "put(0, 1, 1, 1, 1) = 1\n", "put(0, 2, 2, 2, 2) = 1\n")
-                + """
+        DOCUMENT.holds(29, "OLD their base: of two the greatest number", """
+            put(0, 1, 1, 0, 0) = 1
+            commit() = 1
+            open(1) = 1
+            put(0, 1, 2, 0, 0) = 0
+            commit() = 2
+            open(3) = 2
+            go(1) = 1
+            put(0, 1, 3, 0, 0) = 0
+            commit() = 3
+            open(2) = 3
+            go(0) = 2
+            merge(1) = 3
+            version(0, 0, 0) = 1
+            settle(0, 1) = 1
+            commit() = 4
+            put(0, 1, 5, 0, 0) = 0
+            commit() = 5
+            go(2) = 3
+            merge(3) = 3
+            settle(0, 1) = 1
+            commit() = 6
+            put(0, 1, 7, 0, 0) = 0
+            commit() = 7
+            base(5, 7) = 3
+            merge(0) = 3
+            version(0, 0, 0) = 3
+            version(0, 1, 0) = 7
+            version(0, 2, 0) = 5
+            """);
+        DOCUMENT.holds(29, "2 + how many conflicts: none",
+                three("", "put(0, 1, 1, 1, 1) = 1\n", "put(0, 2, 2, 2, 2) = 1\n") + """
             merge(1) = 2
             merging() = true
             conflicts(0) = 0
@@ -497,7 +532,7 @@ public final class MergeBoundariesTest {
             drop(2, 5) = 1
             merge(1) = 3
             """);
-        DOCUMENT.holds(29, "Of several answers that fit the one that is named first is given.", Begin.MERGE_NOT_CLEAN + """
+        DOCUMENT.holds(29, Sentences.FIRST_NAMED, Begin.MERGE_NOT_CLEAN + """
             merge(1) = BAD
             merge(6) = BAD
             merge(0) = BUSY
@@ -657,7 +692,7 @@ public final class MergeBoundariesTest {
             cell(0, 1, 1, 20) = 1
             pick(3) = 3
             """);
-        DOCUMENT.holds(30, "Of several answers that fit the one that is named first is given.", Begin.MERGE_NOT_CLEAN + """
+        DOCUMENT.holds(30, Sentences.FIRST_NAMED, Begin.MERGE_NOT_CLEAN + """
             pick(0) = BAD
             pick(2) = BAD
             undo(0) = BAD
@@ -765,7 +800,8 @@ public final class MergeBoundariesTest {
             conflicts(0) = 0
             conflicts(1) = 0
             """);
-        DOCUMENT.holds(33, "BAD: another number.", Begin.CONFLICT + Script.each("conflicts(#) = BAD", -1, 2, MIN, MAX) + """
+        DOCUMENT.holds(33, "BAD: another number.",
+                Begin.CONFLICT + Script.each("conflicts(#) = BAD", -1, 2, MIN, MAX) + """
             conflicts(0) = 1
             conflicts(1) = 1
             """);
@@ -807,7 +843,8 @@ public final class MergeBoundariesTest {
     }
 
     private static void version() {
-        DOCUMENT.holds(35, "Column c of the key of conflict i in a version (0 OLD, 1 OURS, 2 THEIRS)", Begin.CONFLICT + """
+        DOCUMENT.holds(35, "Column c of the key of conflict i in a version (0 OLD, 1 OURS, 2 THEIRS)",
+                Begin.CONFLICT + """
             version(0, 0, 0) = 20
             version(0, 0, 1) = 40
             version(0, 0, 2) = 60
@@ -863,7 +900,8 @@ public final class MergeBoundariesTest {
             conflicts(0) = 4
             """);
         DOCUMENT.holds(36, "BAD: no such conflict or version", "settle(0, 0) = BAD\n" + SIX_CONFLICTS
-                + Script.each("settle(#, 1) = BAD", -1, 6, MIN, MAX) + Script.each("settle(5, #) = BAD", -1, 3, MIN, MAX) + """
+                + Script.each("settle(#, 1) = BAD", -1, 6, MIN, MAX)
+                + Script.each("settle(5, #) = BAD", -1, 3, MIN, MAX) + """
             settle(5, 0) = 1
             settle(0, 2) = 1
             """ + Script.range("settle(#, 1) = 1", 1, 4) + """

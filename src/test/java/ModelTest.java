@@ -72,7 +72,8 @@ public final class ModelTest {
             return true;
         }
         wrong++;
-        System.out.println(about + " behind " + made.size() + " calls: " + call + " answered " + got + ", due is " + want);
+        System.out.println(about + " behind " + made.size() + " calls: " + call + " answered " + got
+                + ", due is " + want);
         for (Call before : made.subList(Math.max(0, made.size() - 12), made.size())) {
             System.out.println("    " + before);
         }

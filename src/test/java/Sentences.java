@@ -9,6 +9,9 @@ import java.util.TreeSet;
  * made.
  */
 final class Sentences {
+    /** The sentence of the terms that each call with more than one refusal has to keep to. */
+    static final String FIRST_NAMED = "Of several answers that fit the one that is named first is given.";
+
     private static final String[] REFUSALS = {"", "NONE", "FULL", "BUSY", "DIRTY", "BAD"};
 
     private final String test;

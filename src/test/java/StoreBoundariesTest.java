@@ -109,7 +109,8 @@ public final class StoreBoundariesTest {
             send(0) = 5
             kept(0) = 64
             """);
-        DOCUMENT.holds(37, "A branch of the other store becomes the head: while a merge is under way", Begin.CONFLICT + """
+        DOCUMENT.holds(37, "A branch of the other store becomes the head: while a merge is under way",
+                Begin.CONFLICT + """
             send(0) = 2
             there(0) = 2
             send(1) = 2
@@ -163,7 +164,7 @@ public final class StoreBoundariesTest {
             send(0) = 2
             there(0) = 3
             """);
-        DOCUMENT.holds(37, "Of several answers that fit the one that is named first is given.", GONE_ASIDE + """
+        DOCUMENT.holds(37, Sentences.FIRST_NAMED, GONE_ASIDE + """
             go(1) = 0
             send(0) = DIRTY
             close(0) = 2
@@ -300,7 +301,7 @@ public final class StoreBoundariesTest {
             send(0) = 1
             fetch(0) = 1, and nothing changes
             """);
-        DOCUMENT.holds(38, "Of several answers that fit the one that is named first is given.", GONE_ASIDE + """
+        DOCUMENT.holds(38, Sentences.FIRST_NAMED, GONE_ASIDE + """
             undo(2) = 2
             fetch(1) = BAD
             fetch(0) = DIRTY

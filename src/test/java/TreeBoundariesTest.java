@@ -246,7 +246,8 @@ public final class TreeBoundariesTest {
             root(64, 1) = 0
             root(123, 1) = 0
             """);
-        DOCUMENT.holds(10, "0 when there is no such .. table.", Script.each("root(0, #) = 0\nroot(NONE, #) = 0", NO_TABLE)
+        DOCUMENT.holds(10, "0 when there is no such .. table.",
+                Script.each("root(0, #) = 0\nroot(NONE, #) = 0", NO_TABLE)
                 + Script.range("root(0, #) = 1\nroot(NONE, #) = 1", 0, 2));
         DOCUMENT.holds(10, "0 when there is no such commit: one that went", Begin.TWO_BRANCHES + """
             close(1) = 3
@@ -452,7 +453,8 @@ public final class TreeBoundariesTest {
             drop(2, 7) = 1
             stored() = 3
             """);
-        DOCUMENT.holds(15, "How many nodes there are in all trees of all commits: 60 of them", Begin.commits(1, 59) + """
+        DOCUMENT.holds(15, "How many nodes there are in all trees of all commits: 60 of them",
+                Begin.commits(1, 59) + """
             stored() = 60
             put(0, 1, 60, 0, 0) = 0
             stored() = 61

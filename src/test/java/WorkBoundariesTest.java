@@ -171,7 +171,7 @@ public final class WorkBoundariesTest {
             put(0, 400, 1, 1, 1) = 1
             put(0, 0, 1, 1, 1) = FULL
             """);
-        DOCUMENT.holds(2, "Of several answers that fit the one that is named first is given.", Begin.full(0) + """
+        DOCUMENT.holds(2, Sentences.FIRST_NAMED, Begin.full(0) + """
             commit() = 1
             pick(1) = 2
             put(3, 500, 1, 1, 1) = BAD
@@ -215,7 +215,7 @@ public final class WorkBoundariesTest {
             drop(0, 1) = 1
             cell(0, 1, 0, 5) = NONE
             """);
-        DOCUMENT.holds(3, "Of several answers that fit the one that is named first is given.", Begin.MERGE_CLEAN + """
+        DOCUMENT.holds(3, Sentences.FIRST_NAMED, Begin.MERGE_CLEAN + """
             cell(3, 9, 0, 5) = BAD
             cell(0, 9, 3, 5) = BAD
             cell(0, 9, 0, 5) = BUSY
@@ -269,7 +269,7 @@ public final class WorkBoundariesTest {
     }
 
     private static void fill() {
-        DOCUMENT.holds(5, "for each, in order, seed becomes seed * 1664525 + 1013904223 .. column 0, then 1, then 2", """
+        DOCUMENT.holds(5, "for each, in order, seed becomes .. column 0, then anew for column 1, then for column 2", """
             fill(0, 0, 1, 2, 0) = 2
             get(0, 0, 0) = 1013904223
             get(0, 0, 1) = 1196435762
@@ -319,7 +319,7 @@ public final class WorkBoundariesTest {
             reset() = 1
             fill(0, 1, 1, 4, 1) = 4
             """);
-        DOCUMENT.holds(5, "Of several answers that fit the one that is named first is given.", Begin.full(0) + """
+        DOCUMENT.holds(5, Sentences.FIRST_NAMED, Begin.full(0) + """
             commit() = 1
             pick(1) = 2
             fill(3, 500, 1, 100, 1) = BAD
