@@ -43,11 +43,16 @@ public final class BranchBoundariesTest {
         reset();
         sweep();
         sweepSixty();
-        DOCUMENT.haveRefused("open", "BAD", "BUSY", "NONE");
-        DOCUMENT.haveRefused("go", "BAD", "BUSY", "DIRTY");
-        DOCUMENT.haveRefused("close", "BAD");
-        DOCUMENT.haveRefused("commit", "BUSY", "NONE", "FULL");
-        DOCUMENT.haveRefused("sweep", "BUSY");
+        DOCUMENT.haveAsked("open", "BAD", "BUSY", "NONE");
+        DOCUMENT.haveAsked("go", "BAD", "BUSY", "DIRTY");
+        DOCUMENT.haveAsked("close", "BAD");
+        DOCUMENT.haveAsked("head", "BAD");
+        DOCUMENT.haveAsked("commit", "59", "BUSY", "NONE", "FULL");
+        DOCUMENT.haveAsked("parent", "NONE", "BAD");
+        DOCUMENT.haveAsked("ancestors", "1", "60", "BAD");
+        DOCUMENT.haveAsked("base", "0", "BAD");
+        DOCUMENT.haveAsked("reset", "1", "0");
+        DOCUMENT.haveAsked("sweep", "0", "59", "BUSY");
         DOCUMENT.end();
     }
 

@@ -70,11 +70,17 @@ public final class MergeBoundariesTest {
         version();
         settle();
         settleFull();
-        DOCUMENT.haveRefused("diff", "BAD");
-        DOCUMENT.haveRefused("merge", "BAD", "BUSY", "DIRTY", "FULL");
-        DOCUMENT.haveRefused("pick", "BAD", "BUSY", "DIRTY", "FULL");
-        DOCUMENT.haveRefused("undo", "BAD", "BUSY", "DIRTY", "FULL");
-        DOCUMENT.haveRefused("settle", "BAD", "FULL");
+        DOCUMENT.haveAsked("diff", "0", "400", "BAD");
+        DOCUMENT.haveAsked("diffKey", "NOTHING");
+        DOCUMENT.haveAsked("diffKind", "0", "1", "2", "9", "15");
+        DOCUMENT.haveAsked("merge", "0", "1", "2", "BAD", "BUSY", "DIRTY", "FULL");
+        DOCUMENT.haveAsked("pick", "2", "BAD", "BUSY", "DIRTY", "FULL");
+        DOCUMENT.haveAsked("undo", "2", "BAD", "BUSY", "DIRTY", "FULL");
+        DOCUMENT.haveAsked("merging", "true", "false");
+        DOCUMENT.haveAsked("conflicts", "0", "900", "BAD");
+        DOCUMENT.haveAsked("conflict", "NOTHING");
+        DOCUMENT.haveAsked("version", "NOTHING");
+        DOCUMENT.haveAsked("settle", "1", "0", "BAD", "FULL");
         DOCUMENT.end();
     }
 

@@ -24,8 +24,11 @@ final class Script {
             "BAD", -5L, "NOTHING", 1L << 32, "MIN", (long) Integer.MIN_VALUE, "MAX", (long) Integer.MAX_VALUE,
             "false", 0L, "true", 1L);
 
-    /** A call, the answer that is due (null: any that is no refusal), and whether it must change nothing. */
-    record Step(Call call, Long due, boolean staysSame) {
+    /**
+     * A call, the answer that is due (null: any that is no refusal), as it is told and as a number, and whether
+     * the call must change nothing.
+     */
+    record Step(Call call, String told, Long due, boolean staysSame) {
         boolean isRefused() {
             return call.isChanging() && due != null && due < 0;
         }
@@ -50,8 +53,9 @@ final class Script {
         for (int i = 0; i < told.length; i++) {
             arguments[i] = (int) valueOf(told[i].strip());
         }
-        Long due = found.group(3) == null ? null : Long.valueOf(valueOf(found.group(3)));
-        return new Step(new Call(found.group(1), arguments), due, found.group(4) != null);
+        String due = found.group(3);
+        return new Step(new Call(found.group(1), arguments), due, due == null ? null : Long.valueOf(valueOf(due)),
+                found.group(4) != null);
     }
 
     private static long valueOf(String told) {

@@ -12,10 +12,8 @@ final class Sentences {
     /** The sentence of the terms that each call with more than one refusal has to keep to. */
     static final String FIRST_NAMED = "Of several answers that fit the one that is named first is given.";
 
-    private static final String[] REFUSALS = {"", "NONE", "FULL", "BUSY", "DIRTY", "BAD"};
-
     private final String test;
-    private final Set<String> refusals = new TreeSet<>();
+    private final Set<String> answers = new TreeSet<>();
     private int count;
     private int compared;
     private int wrong;
@@ -38,9 +36,7 @@ final class Sentences {
         }
         for (int i = 0; i < steps.size(); i++) {
             Script.Step step = steps.get(i);
-            if (step.isRefused()) {
-                refusals.add(step.call().name() + " " + REFUSALS[(int) -step.due()]);
-            }
+            answers.add(step.call().name() + " " + step.told());
             if (step.isRefused() || step.staysSame()) {
                 List<Call> before = callsOf(steps.subList(0, i));
                 List<Call> with = callsOf(steps.subList(0, i + 1));
@@ -101,11 +97,11 @@ final class Sentences {
         return program;
     }
 
-    /** Each of these calls must have been refused by some script in this way. */
-    void haveRefused(String call, String... answers) {
-        for (String answer : answers) {
-            if (!refusals.contains(call + " " + answer)) {
-                tell("no script has " + call + "() refused with " + answer);
+    /** The answers of a call that some script must have asked for. */
+    void haveAsked(String call, String... wanted) {
+        for (String answer : wanted) {
+            if (!answers.contains(call + " " + answer)) {
+                tell("no script has " + call + "() answer " + answer);
             }
         }
     }

@@ -36,8 +36,10 @@ public final class StoreBoundariesTest {
         fetchSixty();
         there();
         kept();
-        DOCUMENT.haveRefused("send", "BAD", "DIRTY");
-        DOCUMENT.haveRefused("fetch", "BAD", "DIRTY", "BUSY");
+        DOCUMENT.haveAsked("send", "0", "BAD", "DIRTY");
+        DOCUMENT.haveAsked("fetch", "0", "59", "BAD", "DIRTY", "BUSY");
+        DOCUMENT.haveAsked("there", "0", "59", "BAD");
+        DOCUMENT.haveAsked("kept", "1", "60", "BAD");
         DOCUMENT.end();
     }
 

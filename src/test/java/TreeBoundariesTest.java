@@ -30,6 +30,12 @@ public final class TreeBoundariesTest {
         nodeOutside();
         shared();
         stored();
+        DOCUMENT.haveAsked("root", "0", "1");
+        DOCUMENT.haveAsked("height", "1", "BAD");
+        DOCUMENT.haveAsked("nodes", "1", "BAD");
+        DOCUMENT.haveAsked("node", "0", "NOTHING");
+        DOCUMENT.haveAsked("shared", "0", "BAD");
+        DOCUMENT.haveAsked("stored", "1");
         DOCUMENT.end();
     }
 

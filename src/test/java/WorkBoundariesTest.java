@@ -20,10 +20,14 @@ public final class WorkBoundariesTest {
         size();
         kth();
         rank();
-        DOCUMENT.haveRefused("put", "BAD", "BUSY", "FULL");
-        DOCUMENT.haveRefused("cell", "BAD", "BUSY", "NONE");
-        DOCUMENT.haveRefused("drop", "BAD", "BUSY");
-        DOCUMENT.haveRefused("fill", "BAD", "BUSY", "FULL");
+        DOCUMENT.haveAsked("put", "1", "0", "BAD", "BUSY", "FULL");
+        DOCUMENT.haveAsked("cell", "1", "BAD", "BUSY", "NONE");
+        DOCUMENT.haveAsked("drop", "1", "0", "BAD", "BUSY");
+        DOCUMENT.haveAsked("fill", "0", "200", "BAD", "BUSY", "FULL");
+        DOCUMENT.haveAsked("get", "NOTHING");
+        DOCUMENT.haveAsked("size", "0", "200", "BAD");
+        DOCUMENT.haveAsked("kth", "NOTHING");
+        DOCUMENT.haveAsked("rank", "0", "200", "BAD");
         DOCUMENT.end();
     }
 
