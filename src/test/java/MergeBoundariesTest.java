@@ -262,49 +262,36 @@ public final class MergeBoundariesTest {
     }
 
     private static void threeVersions() {
-        DOCUMENT.holds(0, "if OURS and THEIRS are the same (both no row, or the same columns), that", three("""
+        String old = """
             put(0, 1, 1, 1, 1) = 1
             put(0, 2, 1, 1, 1) = 1
-            """, """
+            """;
+        String changes = """
             drop(0, 1) = 1
             put(0, 2, 2, 2, 2) = 0
             put(0, 3, 3, 3, 3) = 1
-            """, """
-            drop(0, 1) = 1
-            put(0, 2, 2, 2, 2) = 0
-            put(0, 3, 3, 3, 3) = 1
-            """) + """
+            """;
+        String merged = """
             merge(1) = 2
             size(0) = 2
             get(0, 1, 0) = NOTHING
             get(0, 2, 0) = 2
             get(0, 3, 0) = 3
-            """);
-        DOCUMENT.holds(0, "else if OLD and OURS are the same, THEIRS", three("""
-            put(0, 1, 1, 1, 1) = 1
-            put(0, 2, 1, 1, 1) = 1
-            """, "", """
+            """;
+        DOCUMENT.holds(0, "if OURS and THEIRS are the same (both no row, or the same columns), that",
+                three(old, changes, changes) + merged);
+        DOCUMENT.holds(0, "else if OLD and OURS are the same, THEIRS", three(old, "", changes) + merged);
+        DOCUMENT.holds(0, "else if OLD and THEIRS are the same, OURS", three(old, changes, "") + merged);
+        DOCUMENT.holds(0, "if OURS and THEIRS are the same (both no row ..): of all that there was", three(old, """
             drop(0, 1) = 1
-            put(0, 2, 2, 2, 2) = 0
-            put(0, 3, 3, 3, 3) = 1
+            drop(0, 2) = 1
+            """, """
+            drop(0, 2) = 1
+            drop(0, 1) = 1
             """) + """
             merge(1) = 2
-            get(0, 1, 0) = NOTHING
-            get(0, 2, 0) = 2
-            get(0, 3, 0) = 3
-            """);
-        DOCUMENT.holds(0, "else if OLD and THEIRS are the same, OURS", three("""
-            put(0, 1, 1, 1, 1) = 1
-            put(0, 2, 1, 1, 1) = 1
-            """, """
-            drop(0, 1) = 1
-            put(0, 2, 2, 2, 2) = 0
-            put(0, 3, 3, 3, 3) = 1
-            """, "") + """
-            merge(1) = 2
-            get(0, 1, 0) = NOTHING
-            get(0, 2, 0) = 2
-            get(0, 3, 0) = 3
+            size(0) = 0
+            root(NONE, 0) = 1
             """);
     }
 
