@@ -573,7 +573,7 @@ public final class TreeVersions {
         return false;
     }
 
-    /** A branch at hand always has a head that is there; commit 0 stands in so that no answer hangs on it. */
+    /** The branch at hand always has a head that is there; commit 0 stands in so that this is never null. */
     private Commit headAtHand() {
         Commit last = commitAt(heads[atHand]);
         return last == null ? commits[0] : last;
