@@ -3,8 +3,9 @@ import java.util.List;
 import java.util.TreeSet;
 
 /**
- * All that can be asked about the state of an object: the questions, and what each of the changing calls
- * would answer and bring about. Each probe is a run of calls of its own, made on an object of its own.
+ * What can be asked about the state of an object: the questions, of long lists their ends and their middle, and
+ * what each of the changing calls would answer and bring about. Each probe is a run of calls of its own, made
+ * on an object of its own; one that is longer than the calls that are left is left out.
  */
 final class Probes {
     /** Of a long list its ends, its middle and what lies behind it are looked at. */

@@ -5,8 +5,8 @@ import java.util.TreeSet;
 /**
  * Holds the class to single sentences of the document. Each has a script: its answers are written down by
  * hand and are asked of the class and of the model. Behind each refused call, and at the end of each script,
- * the whole state is compared with that of a model on which the refused call, or the questions, were never
- * made.
+ * the state, as far as Probes asks for it, is compared with that of a model on which the refused call, or the
+ * questions, were never made.
  */
 final class Sentences {
     /** The sentence of the terms that each call with more than one refusal has to keep to. */
