@@ -359,12 +359,12 @@ public final class TreeVersions {
 
     public int pick(int c) {
         int refusal = refusalOfPick(c);
-        return refusal != 0 ? refusal : beginMerge(commits[c].firstParent, c, NONE);
+        return refusal != 0 ? refusal : beginMerge(parent(c, 0), c, NONE);
     }
 
     public int undo(int c) {
         int refusal = refusalOfPick(c);
-        return refusal != 0 ? refusal : beginMerge(c, commits[c].firstParent, NONE);
+        return refusal != 0 ? refusal : beginMerge(c, parent(c, 0), NONE);
     }
 
     public boolean merging() {
@@ -628,8 +628,14 @@ public final class TreeVersions {
         return isClean() ? 0 : DIRTY;
     }
 
-    private int beginMerge(int old, int theirs, int secondParent) {
-        if (!underWay.bringTogether(commits[old], headAtHand(), commits[theirs])) {
+    /** Parents, bases and heads are always there, so no call is refused here as BAD. */
+    private int beginMerge(int oldNumber, int theirNumber, int secondParent) {
+        Commit old = commitAt(oldNumber);
+        Commit theirs = commitAt(theirNumber);
+        if (old == null || theirs == null) {
+            return BAD;
+        }
+        if (!underWay.bringTogether(old, headAtHand(), theirs)) {
             underWay.end();
             return FULL;
         }

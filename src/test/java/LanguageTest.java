@@ -60,6 +60,8 @@ public final class LanguageTest {
         "\\bSystem\\.(?!arraycopy)", "\\bObject\\b", "\\bprotected\\b", "\\bThread\\b", "\\.equals\\s*\\(",
         "\\bhashCode\\b", "\\btoString\\b", "\\bnew\\s+\\w+\\s*\\([^;{]*\\)\\s*\\{"};
 
+    private static final int MOST_LINES = 60;
+
     private static int wrong = 0;
 
     private static void due(String what, boolean holds) {
@@ -156,5 +158,18 @@ public final class LanguageTest {
                     "floorMod", "fill", "copyOf", "copyOfRange").contains(library.group(2)));
         }
         due("while loops have a counter", !Pattern.compile("\\bwhile\\b").matcher(text).find());
+        methodsAreShort(text);
+    }
+
+    /** A method begins with a line that ends in ") {" and ends with the next brace that stands as far in. */
+    private static void methodsAreShort(String text) {
+        Matcher method = Pattern.compile("(?ms)^((?: {4}){1,2})(?=\\S)([^\n]*\\) \\{)$(.*?)^\\1\\}$").matcher(text);
+        int count = 0;
+        while (method.find()) {
+            count++;
+            long lines = method.group(3).lines().count();
+            due("some sixty lines: " + method.group(2) + " has " + lines, lines <= MOST_LINES);
+        }
+        due("the methods are found", count >= FACE.lines().count());
     }
 }
