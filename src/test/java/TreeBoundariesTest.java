@@ -22,6 +22,7 @@ public final class TreeBoundariesTest {
         twoEntries();
         roll();
         hash();
+        sameHash();
         levels();
         root();
         height();
@@ -201,6 +202,84 @@ public final class TreeBoundariesTest {
             send(0) = 14
             drop(0, 0) = 1
             shared(NONE, 1, 0) = 9
+            """);
+    }
+
+    /**
+     * Two rows of key 1000 whose nodes have the same hash; a search found them, in another language. Behind the
+     * rows 1 and 2, which are a node of their own, each stands alone, and the nodes above have the same hash too.
+     */
+    private static void sameHash() {
+        DOCUMENT.holds(0, "Two nodes are THE SAME if .. the same rows are below them: not if their hashes are alike", """
+            put(0, 1000, 1576027199, -633362364, 0) = 1
+            root(NONE, 0) = -9160175381406985677
+            commit() = 1
+            put(0, 1000, 853403370, 1607616256, 0) = 0
+            root(NONE, 0) = -9160175381406985677
+            shared(NONE, 1, 0) = 0
+            shared(1, NONE, 0) = 0
+            shared(NONE, NONE, 0) = 1
+            stored() = 3
+            go(0) = DIRTY
+            commit() = 2
+            root(2, 0) = -9160175381406985677
+            shared(1, 2, 0) = 0
+            stored() = 3
+            diff(1, 2, 0) = 1
+            diffKind(0) = 11
+            send(0) = 2
+            kept(0) = 3
+            undo(2) = 2
+            get(0, 1000, 0) = 1576027199
+            """);
+        DOCUMENT.holds(0, "Two nodes are THE SAME if .. the same rows are below them: not if their entries are alike", """
+            put(0, 1, 0, 5, 0) = 1
+            put(0, 2, 0, 0, 0) = 1
+            put(0, 1000, 1576027199, -633362364, 0) = 1
+            nodes(NONE, 0, 0) = 2
+            root(NONE, 0) = 2115503447052365257
+            commit() = 1
+            send(0) = 3
+            put(0, 1000, 853403370, 1607616256, 0) = 0
+            root(NONE, 0) = 2115503447052365257
+            shared(NONE, 1, 0) = 1
+            stored() = 6
+            commit() = 2
+            root(2, 0) = 2115503447052365257
+            shared(1, 2, 0) = 1
+            shared(2, 1, 0) = 1
+            stored() = 6
+            send(0) = 2
+            kept(0) = 6
+            """);
+        DOCUMENT.holds(15, "of the same ones one: not of those whose hashes are alike, in three tables", """
+            put(0, 1000, 1576027199, -633362364, 0) = 1
+            put(1, 1000, 853403370, 1607616256, 0) = 1
+            stored() = 3
+            put(2, 1000, 853403370, 1607616256, 0) = 1
+            stored() = 3
+            commit() = 1
+            stored() = 3
+            send(0) = 2
+            cell(2, 1000, 2, 1) = 1
+            stored() = 4
+            """);
+        DOCUMENT.holds(0, "if OURS and THEIRS are the same: not if their hashes are alike", """
+            put(0, 1000, 0, 0, 0) = 1
+            commit() = 1
+            open(1) = 1
+            put(0, 1000, 1576027199, -633362364, 0) = 0
+            commit() = 2
+            go(1) = 1
+            put(0, 1000, 853403370, 1607616256, 0) = 0
+            commit() = 3
+            merge(0) = 3
+            version(0, 1, 0) = 853403370
+            version(0, 2, 0) = 1576027199
+            settle(0, 2) = 1
+            commit() = 4
+            diff(3, 4, 0) = 1
+            diffKind(0) = 11
             """);
     }
 
